@@ -43,6 +43,13 @@ public final class DoneTest {
         CHECKS.due("what went of 1 by two", x.about(1, 2), 50);
         CHECKS.due("no third", x.done(0, 0, 0, 0, 0), 501);
         CHECKS.due("3 is kept then", x.about(3, 0), 0);
+        MaterialBars y = Checks.made("", "u0*2,u11*3");
+        Checks.allow(y, 1);
+        y.stock(0, 5);
+        y.stock(11, 5);
+        CHECKS.due("a step with the first good and the last", y.done(0, 0, 0, 0, 0), 0);
+        CHECKS.due("what there is of 0", y.about(0, 0), 3);
+        CHECKS.due("what there is of 11", y.about(11, 0), 2);
     }
 
     private static void aRefusedStepChangesNothing() {

@@ -42,6 +42,15 @@ public final class ModelTest {
         return draw(40) == 0 ? EDGES[draw(EDGES.length)] : draw(bound);
     }
 
+    private int method() {
+        int there = model.count(1);
+        return there > 0 && draw(10) != 0 ? draw(there) : place(12);
+    }
+
+    private int person() {
+        return draw(4) == 0 ? place(8) : draw(2);
+    }
+
     private void same(String what, Checks.Call own, Checks.Call models) {
         calls++;
         CHECKS.due(what, answerOf(own), answerOf(models));
@@ -60,13 +69,20 @@ public final class ModelTest {
         for (int k = 0; k < texts; k++) {
             tellText(k);
         }
+        for (int method = 0; method < model.count(1) && style != 3; method++) {
+            right(0, method, true);
+            right(1, method, true);
+        }
         while (calls < CALLS) {
             callAny();
         }
     }
 
     private void tellText(int number) {
-        String text = style == 3 && draw(2) == 0 ? noise() : text(number);
+        String text = style == 3 && draw(3) == 0 ? noise() : text(number);
+        if (draw(6) == 0) {
+            text = spoilt(text);
+        }
         for (int k = 0; k < text.length(); k++) {
             unit(text.charAt(k));
         }
@@ -85,6 +101,13 @@ public final class ModelTest {
         return text.toString();
     }
 
+    /** The text with a sign more, or one in another's place. */
+    private String spoilt(String text) {
+        int place = draw(text.length() + 1);
+        int rest = Math.min(text.length(), place + draw(2));
+        return text.substring(0, place) + SIGNS.charAt(draw(SIGNS.length())) + text.substring(rest);
+    }
+
     private String text(int number) {
         StringBuilder text = new StringBuilder();
         for (int k = draw(style == 2 ? 5 : 3); k > 0; k--) {
@@ -94,13 +117,14 @@ public final class ModelTest {
     }
 
     private String clause(int number) {
-        switch (draw(9)) {
+        switch (draw(10)) {
             case 0:
             case 1:
                 return "u" + draw(12) + "*" + (1 + draw(draw(3) == 0 ? 9999 : 9));
             case 2:
                 return "b" + draw(10);
             case 3:
+            case 6:
                 return "x" + draw(12);
             case 4:
                 return "t";
@@ -118,24 +142,24 @@ public final class ModelTest {
                 same("object()", x::object, model::object);
                 break;
             case 1:
-                part(place(3), place(10));
+                part(place(3), style == 0 ? draw(3) : place(10));
                 break;
             case 2:
-            case 3:
-            case 4:
-                right(place(8), place(12), draw(5) != 0);
+                right(person(), method(), draw(5) != 0);
                 break;
             case 5:
             case 6:
-                trial(place(12), place(10), draw(5) != 0);
+                trial(method(), place(10), draw(5) != 0);
                 break;
             case 7:
-                reason(place(3), place(12), place(8), draw(6) == 0 ? place(1000001) : hour + draw(10));
+                reason(place(3), method(), person(), draw(6) == 0 ? place(1000001) : hour + draw(10));
                 break;
+            case 3:
+            case 4:
             case 8:
             case 9:
             case 10:
-                done(place(3), place(12), place(8), place(8));
+                done(draw(2) == 0 ? 0 : place(3), method(), person(), person());
                 break;
             case 11:
                 row(place(3), draw(3) == 0 ? -1 : place(6), place(4));
@@ -148,14 +172,14 @@ public final class ModelTest {
                 about(place(12), place(4));
                 break;
             case 15:
-                shelve(place(12), place(12), draw(6) == 0 ? -1 : place(6));
+                shelve(place(12), place(12), draw(6) == 0 ? -1 : place(style == 0 ? 2 : 6));
                 break;
             case 16:
             case 17:
                 plan(place(3), draw(10) == 0 ? place(1 << 13) : wantedSet());
                 break;
             case 18:
-                uses(place(12), place(12));
+                uses(method(), place(12));
                 break;
             default:
                 if (draw(4) == 0) {

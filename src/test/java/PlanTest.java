@@ -43,6 +43,8 @@ public final class PlanTest {
         CHECKS.due("2 ahead of 0 and 1, 3 ahead of 0", planned(x, 0, 15), "2 1 3 0");
         CHECKS.due("a not-behind only counts if both are planned", planned(x, 0, 2 | 8), "1 3");
         CHECKS.due("3 ahead of 0, 2 comes along", planned(x, 0, 1 | 8), "2 3 0");
+        MaterialBars first = Checks.made("", "a2:0,x1", "", "");
+        CHECKS.due("1 waits for 0, and that for 2", planned(first, 0, 7), "2 0 1");
         MaterialBars low = Checks.made("", "a3:0", "", "", "");
         CHECKS.due("the lower one where they differ first", planned(low, 0, 15), "1 2 3 0");
     }
@@ -94,6 +96,7 @@ public final class PlanTest {
         CHECKS.due("not behind itself, not done", planned(x, 0, 32), "5");
         x.done(0, 5, 0, 0, 0);
         CHECKS.due("done, so no step", planned(x, 0, 32), "");
+        CHECKS.due("a barred part for method 0", planned(Checks.made("6", "b6"), 0, 1), "-1");
         x.object();
         CHECKS.due("another object, nothing barred or done", planned(x, 1, 2 | 16), "1 4");
         x.part(0, 3);
@@ -121,6 +124,9 @@ public final class PlanTest {
         MaterialBars y = Checks.made("", "", "", "", "", "", "", "", "", "", "a11:0");
         CHECKS.due("ten and one that is not there", y.plan(0, 1023), -2);
         CHECKS.due("nine and one that is not there", y.plan(0, 1022), -1);
+        MaterialBars f = Checks.made("", "", "", "", "", "", "", "", "", "a9:0");
+        Checks.tell(f, "a10:0,a11:0,");
+        CHECKS.due("a text that failed counts for nothing", f.plan(0, 511), -1);
         MaterialBars z = Checks.made("", "a1:0", "a2:0", "a3:0", "a4:0", "a5:0", "a6:0", "a7:0", "a8:0", "a9:0", "a10:0",
                 "a0:0");
         CHECKS.due("eleven in a circle", z.plan(0, 1), -2);
@@ -188,6 +194,11 @@ public final class PlanTest {
         for (int what = 0; what < 5; what++) {
             CHECKS.due("count(" + what + ")", x.count(what), due[what]);
         }
+        for (int k = 2; k < 10; k++) {
+            x.object();
+        }
+        x.done(9, 0, 0, 0, 0);
+        CHECKS.due("rows of ten objects", x.count(3), 5);
         x.read();
         CHECKS.due("a bad text is no method", x.count(1), 3);
         CHECKS.due("the pad is empty", x.count(0), 0);

@@ -97,9 +97,11 @@ public final class ReadTest {
 
     private static void aFailedTextLeavesNothingBehind() {
         MaterialBars x = new MaterialBars();
-        CHECKS.due("a bad text", Checks.tell(x, "u1*5,b1,x0,a0:9,a1:7,t,i,"), -26);
+        CHECKS.due("a bad text", Checks.tell(x, "u1*5,u0*1,u11*1,b1,x0,a0:9,a1:7,t,i,"), -37);
         CHECKS.due("an empty one", Checks.tell(x, ""), 0);
-        CHECKS.due("uses nothing", x.uses(0, 1), 0);
+        for (int good = 0; good < 12; good++) {
+            CHECKS.due("uses nothing", x.uses(0, good), 0);
+        }
         x.object();
         x.part(0, 1);
         x.right(0, 0, true);

@@ -94,6 +94,8 @@ public final class ReasonTest {
         CHECKS.due("just enough", x.reason(0, 0, 0, 0), 0);
         CHECKS.due("asking takes nothing", x.about(11, 0), 6);
         CHECKS.due("uses nothing", x.reason(0, 1, 0, 0), 0);
+        MaterialBars y = Checks.made("", "u5*1,u0*2");
+        CHECKS.due("good 0", y.reason(0, 0, 0, 0), 500);
     }
 
     private static void theFirstThatHolds() {

@@ -81,6 +81,16 @@ public final class StoreTest {
     }
 
     private static void apartIsForBoth() {
+        for (int first = 3; first <= 4; first++) {
+            MaterialBars x = new MaterialBars();
+            x.apart(3, 4);
+            x.put(first, 0);
+            CHECKS.due("the other way of 3 and 4 than " + first, x.put(7 - first, 0), 1 + first);
+        }
+        apartIsKept();
+    }
+
+    private static void apartIsKept() {
         MaterialBars x = new MaterialBars();
         CHECKS.due("two on no shelf", x.apart(0, 11), true);
         CHECKS.due("again", x.apart(0, 11), true);
