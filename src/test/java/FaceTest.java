@@ -5,7 +5,7 @@ import java.lang.reflect.Modifier;
 import java.util.Arrays;
 import java.util.TreeSet;
 
-/** The public face, the rules of LANGUAGE.md that can be seen on the compiled class, and promise 1. */
+/** The public face, and the rules of LANGUAGE.md that can be seen on the compiled class. */
 public final class FaceTest {
     private static final String[] METHODS = {
         "int unit(int) IllegalStateException IllegalArgumentException",
@@ -32,8 +32,6 @@ public final class FaceTest {
     public static void main(String[] args) {
         theFaceIsTheDocuments();
         theFieldsArePrivate();
-        aNewObjectHasNothing();
-        twoObjectsShareNothing();
         CHECKS.end();
     }
 
@@ -86,36 +84,5 @@ public final class FaceTest {
             }
         }
         CHECKS.due("NONE", MaterialBars.NONE, -1);
-    }
-
-    private static void aNewObjectHasNothing() {
-        MaterialBars x = new MaterialBars();
-        for (int what = 0; what < 5; what++) {
-            CHECKS.due("new: count(" + what + ")", x.count(what), 0);
-        }
-        for (int good = 0; good < 12; good++) {
-            CHECKS.due("new: what there is", x.about(good, 0), 0);
-            CHECKS.due("new: what came", x.about(good, 1), 0);
-            CHECKS.due("new: what went", x.about(good, 2), 0);
-            CHECKS.due("new: shelf", x.about(good, 3), MaterialBars.NONE);
-        }
-        CHECKS.refused("new: uses(0, 0)", Checks.INDEX, x, () -> x.uses(0, 0));
-        CHECKS.refused("new: part(0, 0)", Checks.INDEX, x, () -> x.part(0, 0));
-        CHECKS.refused("new: row(0, -1, 0)", Checks.INDEX, x, () -> x.row(0, -1, 0));
-        CHECKS.refused("new: plan(0, 0)", Checks.INDEX, x, () -> x.plan(0, 0));
-        CHECKS.refused("new: step(0)", Checks.INDEX, x, () -> x.step(0));
-        CHECKS.due("new: all may lie on one shelf", x.put(0, 0) + x.put(1, 0) + x.put(11, 0), 0);
-    }
-
-    private static void twoObjectsShareNothing() {
-        MaterialBars x = Checks.made("1", "u1*2,b3");
-        x.stock(1, 5);
-        x.plan(0, 1);
-        x.unit('t');
-        String before = State.of(new MaterialBars());
-        MaterialBars y = new MaterialBars();
-        CHECKS.due("a second object is new", State.of(y), before);
-        CHECKS.due("and has no stock", y.about(1, 0), 0);
-        CHECKS.due("and no method", y.count(1), 0);
     }
 }

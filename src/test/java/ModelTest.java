@@ -1,3 +1,5 @@
+import java.util.function.LongSupplier;
+
 /**
  * Runs of 512 calls on the class and on SlowModel side by side: every answer and every exception has
  * to be the same. The runs are drawn by a fixed row of numbers, so they are the same each time.
@@ -51,14 +53,16 @@ public final class ModelTest {
         return draw(4) == 0 ? place(8) : draw(2);
     }
 
-    private void same(String what, Checks.Call own, Checks.Call models) {
-        calls++;
-        CHECKS.due(what, answerOf(own), answerOf(models));
+    private void same(String what, LongSupplier own, LongSupplier models) {
+        if (calls < CALLS) {
+            calls++;
+            CHECKS.due(what, answerOf(own), answerOf(models));
+        }
     }
 
-    private static String answerOf(Checks.Call call) {
+    private static String answerOf(LongSupplier call) {
         try {
-            return String.valueOf(call.answer());
+            return String.valueOf(call.getAsLong());
         } catch (IndexOutOfBoundsException | IllegalStateException | IllegalArgumentException e) {
             return e.getClass().getSimpleName();
         }
