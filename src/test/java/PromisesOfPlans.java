@@ -95,6 +95,8 @@ final class PromisesOfPlans {
         checks.inVain("after it and not behind it", -1, PromisesOfPlans::knotted, x -> x.plan(0, 64));
         checks.inVain("after one that is not there", -1, PromisesOfPlans::knotted, x -> x.plan(0, 128));
         checks.inVain("a barred part", -1, PromisesOfPlans::knotted, x -> x.plan(0, 256));
+        checks.inVain("a good one ahead of a circle", -1, PromisesOfPlans::knotted, x -> x.plan(0, 8 | 2));
+        checks.inVain("three ahead of a circle", -1, PromisesOfPlans::knotted, x -> x.plan(0, 8 | 512 | 2));
         checks.inVain("a good one beside a bad one", -1, PromisesOfPlans::knotted, x -> x.plan(0, 1 | 256));
         checks.due("each of two alone", Samples.planned(knotted(), 0, 8), "1: 3");
         checks.due("the other one alone", Samples.planned(knotted(), 0, 16), "1: 4");
